@@ -342,11 +342,14 @@ public final class SessionHost {
   /** Answers the result that the caller got. */
   private int endMethod(Caller caller, int outcome) {
     int latest = caller.depth - 1;
+    Target target = caller.targets[latest];
     int instance = caller.instances[latest];
     boolean system = outcome != WELL && !types.isApplication(outcome);
     caller.depth = latest;
     journal.note(LEFT, caller.number + 1, instance);
-    caller.targets[latest].giveBack(instance, caller.modes[latest], outcome, system);
+    if (target != null) {
+      target.giveBack(instance, caller.modes[latest], outcome, system);
+    }
     int result = system ? SYSTEM : outcome;
     caller.gets(result);
     return result;
