@@ -41,6 +41,9 @@ final class Boundary {
   }
 
   private static void quote(String section, String sentence) {
+    if (TEXT.isEmpty()) {
+      return;
+    }
     int from = TEXT.indexOf("## " + section);
     int to = TEXT.indexOf(" ## ", from + 1);
     String words = from < 0 ? "" : TEXT.substring(from, to < 0 ? TEXT.length() : to);
@@ -56,6 +59,7 @@ final class Boundary {
     try {
       return Files.readString(DOCUMENT);
     } catch (IOException e) {
+      System.out.println(DOCUMENT + " cannot be read: its words are not looked up");
       return "";
     }
   }

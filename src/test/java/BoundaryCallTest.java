@@ -58,6 +58,12 @@ public final class BoundaryCallTest {
         call(0, 0, 0) = 20; instance(0) = 1; call(0, 0, 0) = 20; instance(0) = 2
         call(0, 0, 0) = 20; instance(0) = 3
         """, """
+        component(0, 4, 0, 0) = 0; start() = 0; call(0, 0, 0) = 20; call(1, 0, 0) = 20
+        call(2, 0, 0) = 20; call(3, 0, 0) = 20; finish(0, 0) = 0; finish(3, 0) = 0
+        finish(1, 0) = 0; finish(2, 0) = 0; call(3, 0, 0) = 20; instance(3) = 2
+        call(2, 0, 0) = 20; instance(2) = 1; call(1, 0, 0) = 20; instance(1) = 3
+        call(0, 0, 0) = 20; instance(0) = 0; instances(0) = 4
+        """, """
         component(0, 2, 0, 0) = 0; start() = 0; call(0, 0, 0) = 20; call(1, 0, 0) = 20
         finish(0, 0) = 0; finish(1, 1) = 8; call(2, 0, 0) = 20; instance(2) = 0
         call(3, 0, 0) = 20; instance(3) = 2
@@ -139,6 +145,10 @@ public final class BoundaryCallTest {
         call(0, 0, 1) = 12; state(0) = 2; call(3, 0, 0) = 21; waiting(0) = 2
         """),
         singleton("""
+        call(0, 1, 0) = 20; call(0, 0, 1) = 20; finish(0, 0) = 0; finish(0, 0) = 0
+        call(0, 0, 0) = 20; call(0, 0, 1) = 12
+        """),
+        singleton("""
         call(0, 1, 1) = 20; call(0, 0, 0) = 20; call(0, 0, 1) = 12; call(0, 1, 1) = 20
         finish(0, 0) = 0; finish(0, 0) = 0; call(0, 0, 1) = 20; finish(0, 0) = 0
         finish(0, 0) = 0; call(0, 1, 0) = 20; call(0, 1, 1) = 12
@@ -162,7 +172,8 @@ public final class BoundaryCallTest {
           "component(2, 1, " + timeout + ", 0) = 0; start() = 1; call(0, 0, 1) = 20\n"
               + "call(1, 0, 0) = " + answer + "; waiting(0) = " + waiting + state,
           "component(1, 1, " + timeout + ", 0) = 0; start() = 0; create(0) = 0\n"
-              + "call(0, 8, 0) = 20\ncall(1, 8, 0) = " + answer + "; waiting(8) = " + waiting + state);
+              + "call(0, 8, 0) = 20; call(1, 8, 0) = " + answer + "\n"
+              + "waiting(8) = " + waiting + state);
     }
     Boundary.holds(TERMS, sentence, """
         component(0, 1, 5, 0) = 0; start() = 0; call(3, 0, 0) = 20; call(2, 0, 0) = 21
