@@ -36,8 +36,17 @@ final class Boundary {
 
   record Range(int low, int high, String within, String beyond) {}
 
-  private static String filled(String call, int number) {
-    return call.replace("?", String.valueOf(number));
+  /** The rows once for each number of first .. last, which stands for their '?'. */
+  static String counted(int first, int last, String rows) {
+    StringBuilder all = new StringBuilder();
+    for (int number = first; number <= last; number++) {
+      all.append(filled(rows, number)).append('\n');
+    }
+    return all.toString();
+  }
+
+  private static String filled(String rows, int number) {
+    return rows.replace("?", String.valueOf(number));
   }
 
   private static void quote(String section, String sentence) {

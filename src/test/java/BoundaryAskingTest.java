@@ -66,10 +66,8 @@ public final class BoundaryAskingTest {
   private static void session() {
     String sentence = "Session s: 0 gone (all are behind END) or never made, 1 in memory and not in"
         + " use, 2 in use, 3 put away";
-    StringBuilder all = new StringBuilder("component(1, 1, 0, 0) = 0; start() = 0\n");
-    for (int s = 0; s < 24; s++) {
-      all.append("session(" + s + ") = 0; create(0) = " + s + "; session(" + s + ") = 1\n");
-    }
+    String all = "component(1, 1, 0, 0) = 0; start() = 0\n"
+        + Boundary.counted(0, 23, "session(?) = 0; create(0) = ?; session(?) = 1");
     Boundary.holds("Promise 16", sentence,
         all + "session(-1) = 0; session(0) = 3; session(23) = 1; session(24) = 0; session(32) = 0",
         all + "call(0, 31, 0) = 20; session(22) = 3; session(23) = 2; session(MIN) = 0",
@@ -84,10 +82,8 @@ public final class BoundaryAskingTest {
   }
 
   private static void task() {
-    String most = "component(2, 0, 0, 0) = 0; start() = 0\n";
-    for (int k = 0; k < 24; k++) {
-      most += "task(" + k + ") = 0; submit(0, 0, true) = " + k + "\n";
-    }
+    String most = "component(2, 0, 0, 0) = 0; start() = 0\n"
+        + Boundary.counted(0, 23, "task(?) = 0; submit(0, 0, true) = ?");
     Boundary.holds("Promise 17", "Task k: 0 if there was none",
         most + "task(-1) = 0; task(0) = 2; task(23) = 1; task(24) = 0; task(MIN) = 0",
         "task(0) = 0; start() = 0; task(0) = 0; task(MAX) = 0; shutdown() = 0; task(0) = 0");
@@ -130,11 +126,9 @@ public final class BoundaryAskingTest {
   }
 
   private static void instances() {
-    StringBuilder eight = new StringBuilder();
-    for (int c = 0; c < 8; c++) {
-      eight.append("instances(" + c + ") = -1; component(" + c % 3 + ", 1, 0, 0) = " + c + "\n");
-    }
-    Boundary.range("Promise 18", "-1 if there is no component c", eight.toString(), "instances(?)",
+    String eight = Boundary.counted(0, 1, "instances(?) = -1; component(?, 1, 0, 0) = ?")
+        + Boundary.counted(2, 7, "instances(?) = -1; component(2, 0, 0, 0) = ?");
+    Boundary.range("Promise 18", "-1 if there is no component c", eight, "instances(?)",
         new Boundary.Range(0, 7, "0", "-1"));
     Boundary.range("Promise 18", "-1 if there is no component c", "component(1, 1, 0, 0) = 0",
         "instances(?)", new Boundary.Range(0, 0, "0", "-1"));
@@ -168,11 +162,9 @@ public final class BoundaryAskingTest {
       Boundary.holds("Promise 19", "-1 if there is no such target", home + "; waiting(0) = -1\n"
           + "waiting(2) = -1; waiting(4) = -1; waiting(-1) = -1; waiting(" + target + ") = 0");
     }
-    StringBuilder all = new StringBuilder(home + "\n");
-    for (int s = 0; s < 24; s++) {
-      all.append("waiting(" + (8 + s) + ") = -1; create(0) = " + s + "\n");
-    }
-    Boundary.range("Promise 19", "-1 if there is no such target", all.toString(), "waiting(?)",
+    String all = home + "\n" + Boundary.counted(8, 31, "waiting(?) = -1")
+        + Boundary.counted(0, 23, "create(0) = ?");
+    Boundary.range("Promise 19", "-1 if there is no such target", all, "waiting(?)",
         new Boundary.Range(8, 31, "0", "-1"));
     Boundary.holds("Promise 19", "How many callers wait in the line of a target (0 for a session"
         + " that is gone)", """

@@ -14,35 +14,19 @@ public final class BoundaryFurnishingTest {
   }
 
   private static void newObject() {
-    StringBuilder empty = new StringBuilder("events() = 0; cancel(0) = 0\n");
-    for (int i = 0; i < 64; i++) {
-      empty.append("event(" + i + ") = -1\n");
-    }
-    for (int i = 0; i < 24; i++) {
-      empty.append("session(" + i + ") = 0; task(" + i + ") = 0\n");
-    }
-    for (int i = 0; i < 32; i++) {
-      empty.append("waiting(" + i + ") = -1\n");
-    }
-    for (int i = 0; i < 8; i++) {
-      empty.append("instances(" + i + ") = -1\n");
-    }
+    String empty = "events() = 0; cancel(0) = 0\n" + Boundary.counted(0, 63, "event(?) = -1")
+        + Boundary.counted(0, 23, "session(?) = 0; task(?) = 0")
+        + Boundary.counted(0, 31, "waiting(?) = -1")
+        + Boundary.counted(0, 7, "instances(?) = -1");
     Boundary.holds("Promise 1", "FURNISHED, nothing in it, the clock at 0",
         empty + "component(0, 1, 0, 0) = 0; start() = 0; start() = -1",
         "component(1, 1, 0, 1) = 0; start() = 0; create(0) = 0; tick(0) = 0; tick(1) = 100");
-    StringBuilder idle = new StringBuilder();
-    for (int i = 0; i < 8; i++) {
-      idle.append("state(" + i + ") = 0; result(" + i + ") = -1; instance(" + i + ") = -1\n");
-      idle.append("finish(" + i + ", 0) = -1\n");
-    }
-    Boundary.holds("Promise 1", "no caller has a method or waits", idle.toString());
-    StringBuilder ends = new StringBuilder("component(2, 0, 0, 0) = 0; start() = 0\n");
-    StringBuilder marks = new StringBuilder();
-    for (int e = 1; e <= 7; e++) {
-      ends.append("call(0, 0, 0) = 20; finish(0, " + e + ") = 8\n");
-      marks.append("application(" + e + ", false) = true\n");
-    }
-    Boundary.holds("Promise 1", "no exception type is marked", ends.toString(), marks.toString());
+    Boundary.holds("Promise 1", "no caller has a method or waits", Boundary.counted(0, 7,
+        "state(?) = 0; result(?) = -1; instance(?) = -1; finish(?, 0) = -1"));
+    Boundary.holds("Promise 1", "no exception type is marked",
+        "component(2, 0, 0, 0) = 0; start() = 0\n"
+            + Boundary.counted(1, 7, "call(0, 0, 0) = 20; finish(0, ?) = 8"),
+        Boundary.counted(1, 7, "application(?, false) = true"));
   }
 
   private static void refusedOutside(String sentence, String call, int low, int high) {
@@ -100,11 +84,7 @@ public final class BoundaryFurnishingTest {
   }
 
   private static String singletons(int count) {
-    StringBuilder rows = new StringBuilder();
-    for (int c = 0; c < count; c++) {
-      rows.append("component(2, 0, 0, 0) = " + c + "\n");
-    }
-    return rows.toString();
+    return Boundary.counted(0, count - 1, "component(2, 0, 0, 0) = ?");
   }
 
   private static void dependsNumbers() {
@@ -164,13 +144,10 @@ public final class BoundaryFurnishingTest {
   private static void application() {
     Boundary.range("Promise 4", "e is not 1 .. 7 or is marked already", "",
         "application(?, false)", new Boundary.Range(1, 7, "true", "false"));
-    StringBuilder twice = new StringBuilder();
-    for (int e = 1; e <= 7; e++) {
-      String mark = "application(" + e + ", ";
-      twice.append(mark + "true) = true; " + mark + "true) = false; " + mark + "false) = false\n");
-    }
+    String twice = Boundary.counted(1, 7,
+        "application(?, true) = true; application(?, true) = false; application(?, false) = false");
     String ends = "component(2, 0, 0, 0) = 0; start() = 0; call(0, 0, 0) = 20; finish(0, 2) = ";
-    Boundary.holds("Promise 4", "e is not 1 .. 7 or is marked already", twice.toString(),
+    Boundary.holds("Promise 4", "e is not 1 .. 7 or is marked already", twice,
         "application(1, false) = true; application(1, true) = false; " + ends + "8",
         "application(1, true) = true; application(1, false) = false; " + ends + "2");
     Boundary.holds("Promise 4", "Marks exception type e (whatever its parents are)", """

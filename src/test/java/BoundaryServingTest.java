@@ -33,10 +33,7 @@ public final class BoundaryServingTest {
         create(0) = -1; session(1) = 0; events() = 6
         """);
     String sentence = "there is no stateful component c";
-    StringBuilder eight = new StringBuilder();
-    for (int c = 0; c < 8; c++) {
-      eight.append("component(1, 1, 0, 0) = " + c + "\n");
-    }
+    String eight = Boundary.counted(0, 7, "component(1, 1, 0, 0) = ?");
     Boundary.Range all = new Boundary.Range(0, 7, "0", "-1");
     Boundary.range("Promise 6", sentence, eight + "start() = 0", "create(?)", all);
     String mixed = "component(0, 1, 0, 0) = 0; component(1, 1, 0, 0) = 1\n"
@@ -45,10 +42,8 @@ public final class BoundaryServingTest {
     Boundary.holds("Promise 6", sentence,
         mixed + "; create(4) = -1; create(8) = -1; create(9) = -1",
         mixed + "; create(2) = 0; create(8) = -1; create(9) = -1; create(3) = -1; session(1) = 0");
-    String made = "component(1, 2, 0, 0) = 0; component(1, 4, 0, 0) = 1; start() = 0\n";
-    for (int s = 0; s < 23; s++) {
-      made += "create(" + s % 2 + ") = " + s + "\n";
-    }
+    String made = "component(1, 2, 0, 0) = 0; component(1, 4, 0, 0) = 1; start() = 0\n"
+        + Boundary.counted(0, 11, "create(0) = ?") + Boundary.counted(12, 22, "create(1) = ?");
     Boundary.holds("Promise 6", "or 24 sessions were made",
         made + "create(0) = 23; create(0) = -1; create(1) = -1; session(23) = 1",
         made + "create(1) = 23; call(0, 8, 1) = 20; finish(0, 0) = 0; create(0) = -1",
@@ -298,10 +293,8 @@ public final class BoundaryServingTest {
         call(1, 0, 0) = 21; create(1) = 0; tick(1) = 0; create(1) = 1; call(2, 0, 0) = 21
         tick(4) = 202
         """);
-    StringBuilder all = new StringBuilder("component(1, 1, 0, 1) = 0; start() = 0\n");
-    for (int s = 0; s < 24; s++) {
-      all.append("create(0) = " + s + "\n");
-    }
+    String all = "component(1, 1, 0, 1) = 0; start() = 0\n"
+        + Boundary.counted(0, 23, "create(0) = ?");
     Boundary.holds("Promise 9", sentence,
         all + "tick(50) = 2400; session(0) = 0; session(23) = 0; events() = 71");
   }

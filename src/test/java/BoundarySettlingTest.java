@@ -103,14 +103,11 @@ public final class BoundarySettlingTest {
         session(1) = 2; finish(6, 0) = 0; finish(7, 0) = 0; session(0) = 0; session(1) = 0
         submit(1, 1, true) = 2; call(0, 1, 0) = 11
         """);
-    StringBuilder busy = new StringBuilder("component(2, 1, 0, 0) = 0; component(0, 1, 0, 0) = 1\n"
-        + "start() = 1; call(0, 1, 0) = 20; submit(0, 0, true) = 0; submit(0, 0, true) = 1\n");
-    StringBuilder done = new StringBuilder("finish(6, 0) = 0; state(6) = 0; result(6) = 11\n");
-    for (int k = 2; k < 24; k++) {
-      busy.append("submit(1, 0, true) = " + k + "; task(" + k + ") = 1\n");
-      done.append("task(" + k + ") = 196\n");
-    }
-    Boundary.holds(TERMS, sentence, busy + done.toString() + "task(1) = 2");
+    Boundary.holds(TERMS, sentence, "component(2, 1, 0, 0) = 0; component(0, 1, 0, 0) = 1\n"
+        + "start() = 1; call(0, 1, 0) = 20; submit(0, 0, true) = 0; submit(0, 0, true) = 1\n"
+        + Boundary.counted(2, 23, "submit(1, 0, true) = ?; task(?) = 1")
+        + "finish(6, 0) = 0; state(6) = 0; result(6) = 11\n"
+        + Boundary.counted(2, 23, "task(?) = 196") + "task(1) = 2");
   }
 
   private static void puttingAway() {
@@ -251,7 +248,10 @@ public final class BoundarySettlingTest {
         component(1, 1, 0, 0) = 0; start() = 0; create(0) = 0; call(0, 8, 1) = 20
         shutdown() = 0; news: created 0, entered 0 by 0
         finish(0, 0) = 0; news: left 0 by 0, destroyed 0
-        """);
+        """, "component(1, 4, 0, 0) = 0; start() = 0\n" + Boundary.counted(0, 23, "create(0) = ?")
+            + "session(19) = 3; session(20) = 1; events() = 44; shutdown() = 0; events() = 68\n"
+            + "event(0) = 5890; event(3) = 5122; event(4) = 4870; event(23) = 6\n"
+            + Boundary.counted(0, 23, "session(?) = 0"));
     Boundary.holds(TERMS, "END, in this order", """
         component(2, 1, 0, 0) = 0; component(0, 1, 0, 0) = 1; component(1, 1, 0, 0) = 2
         start() = 1; call(0, 1, 0) = 20; create(2) = 0; finish(0, 0) = 0
@@ -272,6 +272,14 @@ public final class BoundarySettlingTest {
          entered 5 by 1, left 5 by 1, left 3 by 0, left 2 by 0, left 1 by 0, discarded 1,\
          left 0 by 0, left 4 by 1
         shutdown() = 0; news: destroyed 3, destroyed 4, destroyed 5, destroyed 0, destroyed 2
+        """, """
+        component(0, 4, 0, 0) = 0; start() = 0; call(0, 0, 0) = 20; call(1, 0, 0) = 20
+        call(2, 0, 0) = 20; call(3, 0, 0) = 20; finish(1, 0) = 0; finish(3, 0) = 0
+        finish(0, 0) = 0; finish(2, 0) = 0; events() = 12; shutdown() = 0; events() = 16
+        event(3) = 2; event(2) = 258; event(1) = 514; event(0) = 770
+        """, """
+        component(0, 1, 0, 0) = 0; start() = 0; call(0, 0, 0) = 20; finish(0, 1) = 8
+        events() = 4; shutdown() = 0; events() = 4
         """);
     Boundary.holds(TERMS, "The singletons that have begun, the latest begun first: DESTROYED", """
         component(2, 0, 0, 0) = 0; component(2, 1, 0, 0) = 1; component(2, 3, 0, 0) = 2
@@ -279,7 +287,11 @@ public final class BoundarySettlingTest {
         start() = 2; call(0, 0, 0) = 20; finish(0, 0) = 0
         news: created 0, created 1, created 2, entered 2 by 0, left 2 by 0
         shutdown() = 0; news: destroyed 2, destroyed 1, destroyed 0
-        """);
+        """, """
+        component(2, 0, 0, 0) = 0; component(2, 3, 0, 0) = 1; start() = 0; shutdown() = 0
+        events() = 0
+        """, Boundary.counted(0, 7, "component(2, 1, 0, 0) = ?") + "start() = 8; shutdown() = 0\n"
+            + "events() = 16; event(7) = 1794; event(1) = 258; event(0) = 2");
     Boundary.holds(TERMS, "Pools are empty then, and no singleton has an instance", """
         component(0, 4, 0, 0) = 0; component(2, 1, 0, 0) = 1; component(2, 0, 0, 0) = 2
         start() = 1; call(0, 0, 0) = 20; call(0, 0, 0) = 20; shutdown() = 0; instances(0) = 2

@@ -47,10 +47,8 @@ public final class BoundaryTasksTest {
         new Boundary.Range(0, 2, "0", "-1"));
     Boundary.range("Promise 10", sentence, three, "submit(2, ?, true)",
         new Boundary.Range(0, 1, "0", "-1"));
-    StringBuilder most = new StringBuilder("component(2, 0, 0, 0) = 0; start() = 0\n");
-    for (int k = 0; k < 23; k++) {
-      most.append("submit(0, 0, true) = " + k + "\n");
-    }
+    String most = "component(2, 0, 0, 0) = 0; start() = 0\n"
+        + Boundary.counted(0, 22, "submit(0, 0, true) = ?");
     String full = "submit(0, 0, true) = -1; task(24) = 0\n";
     Boundary.holds("Promise 10", "or 24 tasks were submitted",
         most + "submit(0, 0, true) = 23; task(23) = 1\n" + full,

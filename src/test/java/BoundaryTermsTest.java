@@ -79,10 +79,7 @@ public final class BoundaryTermsTest {
   private static void components() {
     for (int kind = 0; kind <= 2; kind++) {
       String one = "component(" + kind + ", 1, 0, 0) = ";
-      StringBuilder eight = new StringBuilder();
-      for (int c = 0; c < 8; c++) {
-        eight.append(one).append(c).append('\n');
-      }
+      String eight = Boundary.counted(0, 7, one + "?");
       Boundary.holds(TERMS, "COMPONENTS, at most 8, are numbered from 0 as they come",
           eight + one + "-1; instances(7) = 0; instances(8) = -1",
           eight + "start() = " + (kind == 2 ? 8 : 0) + "; " + one + "-1; instances(8) = -1");
@@ -96,13 +93,10 @@ public final class BoundaryTermsTest {
 
   private static void kinds() {
     for (int size = 1; size <= 4; size++) {
-      StringBuilder full = new StringBuilder();
-      StringBuilder kept = new StringBuilder();
-      for (int i = 0; i < size; i++) {
-        full.append("instances(0) = " + i + "; call(" + i + ", 0, 0) = 20\n");
-        kept.append("instances(0) = " + i + "; create(0) = " + i + "; session(0) = 1\n");
-      }
-      String pool = "component(0, " + size + ", 0, 0) = 0; start() = 0\n" + full;
+      String pool = "component(0, " + size + ", 0, 0) = 0; start() = 0\n"
+          + Boundary.counted(0, size - 1, "instances(0) = ?; call(?, 0, 0) = 20");
+      String kept = Boundary.counted(0, size - 1,
+          "instances(0) = ?; create(0) = ?; session(0) = 1");
       String count = "instances(0) = " + size + "\n";
       Boundary.holds(TERMS, "Kind 0 STATELESS: a pool of at most size instances",
           pool + count + "call(5, 0, 0) = 11\n" + count,
@@ -146,10 +140,8 @@ public final class BoundaryTermsTest {
         finish(1, 1) = 8; call(1, 0, 0) = 20; instance(1) = 5
         """);
     String two = "component(1, 4, 0, 0) = 0; component(1, 2, 0, 0) = 1; start() = 0\n";
-    StringBuilder made = new StringBuilder(two);
-    for (int s = 0; s < 24; s++) {
-      made.append("create(" + s % 2 + ") = " + s + "\n");
-    }
+    String made = two + Boundary.counted(0, 11, "create(0) = ?")
+        + Boundary.counted(12, 23, "create(1) = ?");
     Boundary.holds(TERMS, "SESSIONS, at most 24, get numbers 0, 1, .. likewise",
         made + "session(23) = 1; create(0) = -1; create(1) = -1; session(24) = 0",
         made + "call(0, 31, 1) = 20; finish(0, 0) = 0; session(23) = 0; create(1) = -1",
@@ -208,19 +200,11 @@ public final class BoundaryTermsTest {
         session(0) = 0; call(0, 8, 0) = 9; waiting(8) = 0; submit(8, 0, true) = 0
         task(0) = 164; call(0, 9, 0) = -1
         """,
-        twentyFourSessions() + """
+        "component(1, 4, 0, 0) = 0; start() = 0\n" + Boundary.counted(0, 23, "create(0) = ?") + """
         call(0, 31, 0) = 20; instance(0) = 23; call(1, 32, 0) = -1; call(1, MAX, 0) = -1
         call(1, 30, 0) = 20; instance(1) = 22; waiting(31) = 0; waiting(32) = -1
         waiting(MIN) = -1; submit(32, 0, true) = -1; submit(31, 0, true) = 0; task(0) = 196
         """);
-  }
-
-  private static String twentyFourSessions() {
-    StringBuilder made = new StringBuilder("component(1, 4, 0, 0) = 0; start() = 0\n");
-    for (int s = 0; s < 24; s++) {
-      made.append("create(0) = " + s + "\n");
-    }
-    return made.toString();
   }
 
   private static void modes() {
@@ -311,14 +295,10 @@ public final class BoundaryTermsTest {
   }
 
   private static void results() {
-    StringBuilder ends = new StringBuilder("component(2, 0, 0, 0) = 0\n"
-        + "application(1, true) = true; start() = 0\n");
-    for (int outcome = 0; outcome <= 7; outcome++) {
-      String answer = ") = " + outcome + "\n";
-      ends.append("call(0, 0, 0) = 20; finish(0, " + outcome + answer + "result(0" + answer);
-    }
     Boundary.holds(TERMS, "RESULTS: 0 the method ended well; 1 .. 7 it ended with an application"
-        + " exception of that type", ends.toString());
+        + " exception of that type",
+        "component(2, 0, 0, 0) = 0; application(1, true) = true; start() = 0\n"
+            + Boundary.counted(0, 7, "call(0, 0, 0) = 20; finish(0, ?) = ?; result(0) = ?"));
     Boundary.holds(TERMS, "8 SYSTEM; 9 NOSUCH; 10 TIMEOUT; 11 BUSY; 12 LOOPBACK; 13 STOPPED", """
         component(2, 0, 0, 0) = 0; component(2, 2, 0, 0) = 1; component(0, 1, 1, 0) = 2
         start() = 0; call(0, 0, 0) = 20; finish(0, 1) = 8; result(0) = 8
