@@ -662,7 +662,7 @@ public final class SessionHost {
       return false;
     }
 
-    void begin(int depth) {
+    private void begin(int depth) {
       if (begun || failed || depth >= MAX_COMPONENTS) {
         return;
       }
